@@ -13,6 +13,7 @@ public final class ChainTest {
         farOnlyAlongItsP();
         farInACircle();
         farOverALongWay();
+        farAtTheLimit();
         reachedFromOneThatIsNotThere();
         walksDoNotDisturbEachOther();
         Check.end();
@@ -123,6 +124,17 @@ public final class ChainTest {
         Check.due("17: reached where the way is cut", x.reached(0, 0), 251);
     }
 
+    /** 700 triples can't be come to in the 512 calls that are promised; the rows hold them all the same. */
+    private static void farAtTheLimit() {
+        TripleTrees x = new TripleTrees();
+        for (int i = 0; i < 700; i++) {
+            x.add(i, 0, i + 1);
+        }
+        Check.due("16: far at the limit", x.far(0, 0, 700), 700);
+        Check.due("17: reached at the limit", x.reached(0, 0), 701);
+        Check.due("16: far beyond the limit", x.far(0, 0, 701), NONE);
+    }
+
     /** The int the walk begins at lies among those led to, but is none of them. */
     private static void reachedFromOneThatIsNotThere() {
         TripleTrees x = new TripleTrees();
@@ -148,6 +160,13 @@ public final class ChainTest {
             Check.due("17: reached along 1", x.reached(1, 1), 3);
             Check.due("16: far along 1", x.far(1, 1, 4), 2);
             Check.due("16: far along 0", x.far(0, 1, 4), NONE);
+        }
+        TripleTrees y = new TripleTrees();
+        y.add(-5, 0, -4);
+        y.add(-4, 0, -3);
+        for (int i = 0; i < 3; i++) {
+            Check.due("17: reached below 0", y.reached(0, -5), 3);
+            Check.due("16: far below 0", y.far(0, -5, -3), 2);
         }
         x.add(0, -1, 0);
         Check.due("17: reached after places moved", x.reached(0, 1), 2);

@@ -95,6 +95,13 @@ public final class CursorTest {
         Check.due("7: next at the end", x.next(c), 0);
         dueTriple("7: none at the end", x, c, 0, 0, 0);
         Check.due("7: next stays at the end", x.next(c), 0);
+        TripleTrees y = cube();
+        int inTheMidst = y.open(1, 1, 0, 0);
+        dueTriple("6: open in the midst has none", y, inTheMidst, 0, 0, 0);
+        y.next(inTheMidst);
+        y.close(inTheMidst);
+        y.open(1, 2, 0, 0);
+        dueTriple("6: open again in the midst has none", y, inTheMidst, 0, 0, 0);
         int none = x.open(1, 5, 0, 0);
         Check.due("7: next where none matches", x.next(none), 0);
         dueTriple("7: none where none matches", x, none, 0, 0, 0);
