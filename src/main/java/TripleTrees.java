@@ -74,8 +74,9 @@ public final class TripleTrees {
         }
         for (int i = 0; i < cursors.length; i++) {
             if (!cursors[i].isOpen) {
-                cursors[i].begin(ORDER_OF_MASK[mask], changed);
-                cursors[i].lay(startOf(mask, s, p, o), endOf(mask, s, p, o));
+                int start = startOf(mask, s, p, o);
+                int end = endOf(mask, s, p, o);
+                cursors[i].begin(ORDER_OF_MASK[mask], start, end, changed);
                 return i;
             }
         }
@@ -341,16 +342,13 @@ public final class TripleTrees {
         private int following;
         private int end;
 
-        void begin(int order, int openedAt) {
+        void begin(int order, int start, int end, int openedAt) {
             this.order = order;
+            this.following = start;
+            this.end = end;
             this.openedAt = openedAt;
             isOpen = true;
             hasCurrent = false;
-        }
-
-        void lay(int start, int end) {
-            following = start;
-            this.end = end;
         }
 
         void skipTo(int place) {
